@@ -362,7 +362,12 @@ public final class FallingTerms {
             return false;
         }
         for (int d = -MOST_NEED_SUM; d <= MOST_NEED_SUM; d++) {
-            if (isNeed(judged, a, b, c, d)) {
+            narrowSpaces(judged, a, b, c, d);
+            if (!lasts(judged, a, b, c, d)) {
+                continue;
+            }
+            trial.search(judged, narrowed);
+            if (trial.waysLeft == 0) {
                 keepNeed(a, b, c, d);
                 return true;
             }
@@ -378,15 +383,14 @@ public final class FallingTerms {
         needRow[3] = d;
     }
 
-    private boolean isNeed(Loop judged, int a, int b, int c, int d) {
-        narrowSpaces(judged, a, b, c, d);
+    /** For the row by which the spaces are narrowed: then they are just where it holds. */
+    private boolean lasts(Loop judged, int a, int b, int c, int d) {
         for (int way = 0; way < judged.wayCount; way++) {
             if (!judged.ways[way].keeps(narrowed[way], a, b, c, d)) {
                 return false;
             }
         }
-        trial.search(judged, narrowed);
-        return trial.waysLeft == 0;
+        return true;
     }
 
     private void narrowSpaces(Loop judged, int a, int b, int c, int d) {
@@ -608,8 +612,15 @@ public final class FallingTerms {
 
         void fill(Loop loop, int way) {
             begin(loop.names);
-            narrowBy(loop.guardRows);
-            narrowBy(loop.ways[way].rows);
+            int[] shared = loop.guardRows.numbers;
+            for (int i = 0; i < WIDTH * loop.guardRows.count; i += WIDTH) {
+                narrow(shared[i], shared[i + 1], shared[i + 2], shared[i + 3]);
+            }
+            Rows rows = loop.ways[way].rows;
+            int[] own = rows.numbers;
+            for (int i = 0; i < WIDTH * rows.count; i += WIDTH) {
+                narrow(own[i], own[i + 1], own[i + 2], own[i + 3]);
+            }
         }
 
         void copy(Space other) {
@@ -631,13 +642,15 @@ public final class FallingTerms {
             return rayCount == 0;
         }
 
-        /** Whether a row holds everywhere. */
+        /** Whether a row holds everywhere. Written out, because a search asks it many times. */
         boolean implies(int a, int b, int c, int d) {
-            if (lineAcross(a, b, c) >= 0) {
-                return false;
+            for (int i = 0; i < WIDTH * lineCount; i += WIDTH) {
+                if (a * lines[i] + b * lines[i + 1] + c * lines[i + 2] != 0) {
+                    return false;
+                }
             }
-            for (int i = 0; i < rayCount; i++) {
-                if (worth(i, a, b, c, d) < 0) {
+            for (int i = 0; i < WIDTH * rayCount; i += WIDTH) {
+                if (a * rays[i] + b * rays[i + 1] + c * rays[i + 2] < d * rays[i + 3]) {
                     return false;
                 }
             }
@@ -681,14 +694,6 @@ public final class FallingTerms {
             appendPivot(0);
             // Bit 0 is the row that q is 0 or more: it just holds for directions.
             bit = 2;
-        }
-
-        private void narrowBy(Rows rows) {
-            for (int i = 0; i < rows.count; i++) {
-                int from = WIDTH * i;
-                narrow(rows.numbers[from], rows.numbers[from + 1], rows.numbers[from + 2],
-                        rows.numbers[from + 3]);
-            }
         }
 
         private long worth(int ray, int a, int b, int c, int d) {
@@ -811,25 +816,21 @@ public final class FallingTerms {
             lineCount = 0;
         }
 
-        /** Divides by what divides all, so that the numbers stay small. */
+        /** Divides by what divides all, so that the numbers stay small. Euclid's way ends long before 100 rounds. */
         private static void reduce(long[] at, int from) {
             long common = 0;
             for (int k = 0; k < WIDTH; k++) {
-                common = commonDivisor(common, Math.abs(at[from + k]));
+                long other = at[from + k];
+                for (int i = 0; i < 100 && other != 0; i++) {
+                    long rest = common % other;
+                    common = other;
+                    other = rest;
+                }
             }
-            for (int k = 0; common > 1 && k < WIDTH; k++) {
-                at[from + k] /= common;
+            long divisor = common < 0 ? -common : common;
+            for (int k = 0; divisor > 1 && k < WIDTH; k++) {
+                at[from + k] /= divisor;
             }
-        }
-
-        /** Euclid's; numbers of 63 bits need fewer than 100 rounds. */
-        private static long commonDivisor(long one, long other) {
-            for (int i = 0; i < 100 && other != 0; i++) {
-                long rest = one % other;
-                one = other;
-                other = rest;
-            }
-            return one;
         }
     }
 

@@ -9,11 +9,13 @@ public final class ProofTest {
         noWays();
         emptySpace();
         threeInARow();
+        greatestTerm();
         someLeft();
         latestStays();
         needs();
         needWithFullGuard();
         needMustLast();
+        needAtItsBounds();
         neededStays();
         due.finish();
     }
@@ -103,6 +105,19 @@ public final class ProofTest {
         proofIs(x, "three", new int[][] {{1, 0, 0, 4}, {0, 1, 0, 2}, {0, 0, 1, 1}});
         due.is("three: need", x.need(0), 2);
         due.is("three: needed", x.needed(0), -1000);
+    }
+
+    private static void greatestTerm() {
+        FallingTerms x = new FallingTerms();
+        x.loop(2);
+        // x becomes x - y, and y is 1/2: only twice x falls by 1.
+        x.way(0);
+        x.guard(0, 1, 0, 0, 0);
+        x.guard(0, 0, 2, 0, 1);
+        x.guard(0, 0, -2, 0, -1);
+        x.factor(0, 0, 0, 1, -1);
+        due.is("by halves: prove", x.prove(0), 1);
+        proofIs(x, "by halves", new int[][] {{2, -2, 0, 1}});
     }
 
     private static void someLeft() {
@@ -207,6 +222,26 @@ public final class ProofTest {
         x.guard(0, 1, 0, 0, -50);
         due.is("doubles, bounded: need", x.need(0), 1);
         neededIs(x, "doubles, bounded", -1, 0, 0, 1);
+    }
+
+    /** While x <= 50, x becomes 2x + constant: it must start where that is x + 1 or more. */
+    private static FallingTerms risesTo50(int constant) {
+        FallingTerms x = new FallingTerms();
+        x.loop(1);
+        x.way(0);
+        x.guard(0, -1, 0, 0, -50);
+        x.factor(0, 0, 0, 0, 2);
+        x.constant(0, 0, 0, constant);
+        return x;
+    }
+
+    private static void needAtItsBounds() {
+        for (int constant = -1; constant <= 4; constant++) {
+            FallingTerms x = risesTo50(constant);
+            due.is("2x + " + constant + ": need", x.need(0), 1);
+            neededIs(x, "2x + " + constant, 1, 0, 0, Math.max(-2, 1 - constant));
+        }
+        due.is("2x - 2 needs x >= 3", risesTo50(-2).need(0), 0);
     }
 
     private static void neededStays() {

@@ -9,6 +9,8 @@ public final class SpaceTest {
         empty();
         fractionsCount();
         triangle();
+        cube();
+        pyramid();
         greatNumbers();
         holds();
         term();
@@ -111,6 +113,51 @@ public final class SpaceTest {
         due.is("only (3, 0)", x.holds(0, 0, 0, -1, 0, 0), 1);
         x.guard(0, 0, 9, 0, 1);
         due.is("not even that", x.empty(0, 0), 1);
+    }
+
+    private static void cube() {
+        FallingTerms x = oneWay(3);
+        x.guard(0, 1, 0, 0, 0);
+        x.guard(0, -1, 0, 0, -2);
+        x.guard(0, 0, 1, 0, 0);
+        x.guard(0, 0, -1, 0, -2);
+        due.is("a bar: z", x.term(0, 0, 0, 0, 1), 2);
+        due.is("a bar: x - 2y", x.term(0, 0, 1, -2, 0), 3);
+        x.row(0, 0, 0, 0, 1, 0);
+        x.row(0, 0, 0, 0, -1, -2);
+        for (int corner = 0; corner < 8; corner++) {
+            int a = corner % 2 == 0 ? 1 : -1;
+            int b = corner / 2 % 2 == 0 ? 1 : -1;
+            int c = corner / 4 == 0 ? 1 : -1;
+            int least = (a < 0 ? -2 : 0) + (b < 0 ? -2 : 0) + (c < 0 ? -2 : 0);
+            due.is("a cube's corner", x.holds(0, 0, a, b, c, least), 1);
+            due.is("a cube's corner", x.holds(0, 0, a, b, c, least + 1), 0);
+            due.is("a cube's corner, bounded", x.term(0, 0, a, b, c), 3);
+        }
+    }
+
+    private static void pyramid() {
+        FallingTerms x = oneWay(3);
+        // Its top, 0, lies in four rows at once; it opens upwards.
+        x.guard(0, 1, 0, 1, 0);
+        x.guard(0, -1, 0, 1, 0);
+        x.guard(0, 0, 1, 1, 0);
+        x.guard(0, 0, -1, 1, 0);
+        due.is("x + z", x.term(0, 0, 1, 0, 1), 3);
+        due.is("x + y + z", x.term(0, 0, 1, 1, 1), 2);
+        due.is("x + y + 2z", x.term(0, 0, 1, 1, 2), 3);
+        x.row(0, 0, 0, 0, -1, -2);
+        due.is("x + y + z >= -2", x.holds(0, 0, 1, 1, 1, -2), 1);
+        due.is("x + y + z >= -1", x.holds(0, 0, 1, 1, 1, -1), 0);
+        due.is("x - y >= -4", x.holds(0, 0, 1, -1, 0, -4), 1);
+        x.row(0, 0, 1, 1, 0, 0);
+        due.is("half: x + y + z >= 0", x.holds(0, 0, 1, 1, 1, 0), 1);
+        due.is("half: -x - y >= -4", x.holds(0, 0, -1, -1, 0, -4), 1);
+        due.is("half: -x - y >= -3", x.holds(0, 0, -1, -1, 0, -3), 0);
+        due.is("half: x - y >= -4", x.holds(0, 0, 1, -1, 0, -4), 1);
+        due.is("half: x - y >= -3", x.holds(0, 0, 1, -1, 0, -3), 0);
+        due.is("half: 3x + 2y + z >= 0", x.holds(0, 0, 3, 2, 1, 0), 1);
+        due.is("half: 4x + 2y + z >= 0", x.holds(0, 0, 4, 2, 1, 0), 0);
     }
 
     private static void greatNumbers() {
