@@ -149,7 +149,8 @@ public final class RandomTest {
     }
 
     private boolean anyCalls() {
-        for (int i = 0; i < 300; i++) {
+        // An object is used for 512 calls at most; the dearest kind below makes 21.
+        while (calls.size() <= 490) {
             int loop = arg(0, Math.max(0, y.loops() - 1));
             int way = arg(0, Math.max(0, y.told(loop, 1) - 1));
             int name = arg(0, Math.max(0, y.told(loop, 0) - 1));

@@ -1,11 +1,8 @@
 /** Promises 10 to 12: spaces of fractions, and the terms on them. */
 public final class SpaceTest {
-    private static final int UNKNOWN = -2, OUTSIDE = -3;
-    private static final int MIN = Integer.MIN_VALUE, MAX = Integer.MAX_VALUE;
     private static final Due due = new Due();
 
     public static void main(String[] args) {
-        wrongInputs();
         empty();
         fractionsCount();
         triangle();
@@ -15,6 +12,9 @@ public final class SpaceTest {
         holds();
         term();
         termOnCorners();
+        boundedFromANumberOn();
+        staysIfNowhereGreater();
+        fallsByOneOrMore();
         due.finish();
     }
 
@@ -23,35 +23,6 @@ public final class SpaceTest {
         x.loop(names);
         x.way(0);
         return x;
-    }
-
-    private static void wrongInputs() {
-        FallingTerms x = new FallingTerms();
-        due.is("empty of no loop", x.empty(0, 0), UNKNOWN);
-        x.loop(2);
-        due.is("empty of no way", x.empty(0, 0), UNKNOWN);
-        x.way(0);
-        due.is("empty(0, 1)", x.empty(0, 1), UNKNOWN);
-        due.is("empty(0, -1)", x.empty(0, -1), UNKNOWN);
-        due.is("empty(-1, 0)", x.empty(-1, 0), UNKNOWN);
-        due.is("holds, way 1", x.holds(0, 1, 0, 0, 0, 0), UNKNOWN);
-        due.is("holds, loop 1", x.holds(1, 0, 1, 0, 0, 0), UNKNOWN);
-        due.is("holds 0 0 0", x.holds(0, 0, 0, 0, 0, 0), OUTSIDE);
-        due.is("holds of a third name", x.holds(0, 0, 1, 1, 1, 0), OUTSIDE);
-        due.is("holds 10", x.holds(0, 0, 0, 10, 0, 0), OUTSIDE);
-        due.is("holds -10", x.holds(0, 0, -10, 0, 0, 0), OUTSIDE);
-        due.is("holds MIN", x.holds(0, 0, MIN, 0, 0, 0), OUTSIDE);
-        due.is("holds d 1001", x.holds(0, 0, 1, 0, 0, 1001), OUTSIDE);
-        due.is("holds d -1001", x.holds(0, 0, 1, 0, 0, -1001), OUTSIDE);
-        due.is("term, way 1", x.term(0, 1, 0, 0, 0), UNKNOWN);
-        due.is("term, loop -1", x.term(-1, 0, 1, 0, 0), UNKNOWN);
-        due.is("term 0 0 0", x.term(0, 0, 0, 0, 0), OUTSIDE);
-        due.is("term of a third name", x.term(0, 0, 1, 1, -1), OUTSIDE);
-        for (int v : new int[] {MIN, -3, 3, MAX}) {
-            due.is("term " + v, x.term(0, 0, v, 0, 0), OUTSIDE);
-            due.is("term 1 " + v, x.term(0, 0, 1, v, 0), OUTSIDE);
-            due.is("term 1 0 " + v, x.term(0, 0, 1, 0, v), OUTSIDE);
-        }
     }
 
     private static void empty() {
@@ -238,5 +209,90 @@ public final class SpaceTest {
         x.constant(0, 0, 0, 3);
         x.guard(0, 3, 0, 0, 4);
         due.is("x from 4/3", x.term(0, 0, 1, 0, 0), 1);
+    }
+
+    /** "BOUNDED, if there is a number below which it is nowhere in THE SPACE" */
+    private static void boundedFromANumberOn() {
+        for (int least : new int[] {-1000, 0, 1000}) {
+            FallingTerms x = oneWay(1);
+            x.guard(0, 9, 0, 0, least);
+            due.is("from below: x", x.term(0, 0, 1, 0, 0), 3);
+            due.is("from below: -x", x.term(0, 0, -1, 0, 0), 2);
+            x.row(0, 0, -9, 0, 0, -1000);
+            due.is("from both sides: x", x.term(0, 0, 2, 0, 0), 3);
+            due.is("from both sides: -x", x.term(0, 0, -2, 0, 0), 3);
+        }
+        // Between the lines 9x = 8y and 8x = 9y, from 0 on: x - y goes below all numbers, and y - x too.
+        FallingTerms x = oneWay(2);
+        x.guard(0, 9, -8, 0, 0);
+        x.guard(0, -8, 9, 0, 0);
+        due.is("a cone: x", x.term(0, 0, 1, 0, 0), 3);
+        due.is("a cone: y", x.term(0, 0, 0, 1, 0), 3);
+        due.is("a cone: x - y", x.term(0, 0, 1, -1, 0), 2);
+        due.is("a cone: y - x", x.term(0, 0, -1, 1, 0), 2);
+        due.is("a cone: 2x - y", x.term(0, 0, 2, -1, 0), 3);
+        due.is("a cone: 2y - x", x.term(0, 0, -1, 2, 0), 3);
+        due.is("a cone: -x - y", x.term(0, 0, -1, -1, 0), 2);
+        // Along its edge a term that is the same there stays bounded; one that is less there does not.
+        x = oneWay(2);
+        x.guard(0, 2, -1, 0, 0);
+        x.guard(0, -1, 2, 0, 0);
+        due.is("the cone of 2x - y and 2y - x: 2x - y", x.term(0, 0, 2, -1, 0), 3);
+        due.is("the cone of 2x - y and 2y - x: x - y", x.term(0, 0, 1, -1, 0), 2);
+        // A row that nothing bounds from the other side.
+        x = oneWay(3);
+        x.guard(0, 1, -1, 0, 0);
+        due.is("x - y", x.term(0, 0, 1, -1, 0), 3);
+        due.is("2x - 2y", x.term(0, 0, 2, -2, 0), 3);
+        due.is("y - x", x.term(0, 0, -1, 1, 0), 2);
+        due.is("2x - y", x.term(0, 0, 2, -1, 0), 2);
+        due.is("x - y + z", x.term(0, 0, 1, -1, 1), 2);
+    }
+
+    /** A way on which x becomes x - y, with 9y from least on. */
+    private static FallingTerms lessByY(int least) {
+        FallingTerms x = oneWay(2);
+        x.factor(0, 0, 0, 1, -1);
+        x.guard(0, 0, 9, 0, least);
+        return x;
+    }
+
+    /** "it STAYS, if nowhere in THE SPACE the CHANGE makes it greater" */
+    private static void staysIfNowhereGreater() {
+        due.is("y from 0: x", lessByY(0).term(0, 0, 1, 0, 0), 2);
+        due.is("y from -1/9: x", lessByY(-1).term(0, 0, 1, 0, 0), 0);
+        due.is("y from 1/9: x", lessByY(1).term(0, 0, 1, 0, 0), 2);
+        due.is("y from 0: -x", lessByY(0).term(0, 0, -1, 0, 0), 0);
+        FallingTerms x = lessByY(0);
+        x.guard(0, 0, -1, 0, 0);
+        due.is("y just 0: x", x.term(0, 0, 1, 0, 0), 2);
+        due.is("y just 0: -x", x.term(0, 0, -1, 0, 0), 2);
+        x = lessByY(-9);
+        x.constant(0, 0, 0, -1);
+        due.is("y from -1, and 1 less: x", x.term(0, 0, 1, 0, 0), 2);
+        x.constant(0, 0, 0, 0);
+        due.is("y from -1: x", x.term(0, 0, 1, 0, 0), 0);
+    }
+
+    /** "it FALLS, if everywhere in THE SPACE the CHANGE makes it less by 1 or more" */
+    private static void fallsByOneOrMore() {
+        due.is("y from 1: x", lessByY(9).term(0, 0, 1, 0, 0), 6);
+        due.is("y from 8/9: x", lessByY(8).term(0, 0, 1, 0, 0), 2);
+        due.is("y from 8/9: 2x", lessByY(8).term(0, 0, 2, 0, 0), 6);
+        due.is("y from 5/9: 2x", lessByY(5).term(0, 0, 2, 0, 0), 6);
+        due.is("y from 4/9: 2x", lessByY(4).term(0, 0, 2, 0, 0), 2);
+        due.is("y from 1000/9: x", lessByY(1000).term(0, 0, 1, 0, 0), 6);
+        FallingTerms x = lessByY(9);
+        x.guard(0, 0, -1, 0, -1);
+        due.is("y just 1: x", x.term(0, 0, 1, 0, 0), 6);
+        due.is("y just 1: -x", x.term(0, 0, -1, 0, 0), 0);
+        x.guard(0, 1, 0, 0, -1000);
+        due.is("y just 1, x from -1000: x", x.term(0, 0, 1, 0, 0), 7);
+        for (int constant = -2; constant <= 1; constant++) {
+            x = oneWay(1);
+            x.constant(0, 0, 0, constant);
+            due.is("x and " + constant + ": x", x.term(0, 0, 1, 0, 0), constant <= -1 ? 6 : constant == 0 ? 2 : 0);
+            due.is("x and " + constant + ": -x", x.term(0, 0, -1, 0, 0), constant >= 1 ? 6 : constant == 0 ? 2 : 0);
+        }
     }
 }
