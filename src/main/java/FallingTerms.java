@@ -185,7 +185,7 @@ public final class FallingTerms {
     }
 
     public int proof(int k, int what) {
-        if (k < 0 || k >= latest.count || what < 0 || what > MOST_NAMES) {
+        if (k < 0 || k >= latest.count || what < 0 || what >= WIDTH) {
             return NONE_SUCH;
         }
         return latest.found[WIDTH * k + what];

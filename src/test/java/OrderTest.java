@@ -235,7 +235,14 @@ public final class OrderTest {
         needIs("x doubled", doubled(1, 0), -1, 0, 0, 1);
         needIs("x and y doubled", doubled(2, 0), -1, -1, 0, 1);
         needIs("x, y and z doubled", doubled(3, 0), -1, -1, -1, 1);
-        FallingTerms x = doubled(1, 0);
+        // What is less than 0 of two together does not last if one of them is tripled.
+        FallingTerms x = doubled(2, 0);
+        x.factor(0, 0, 1, 1, 3);
+        needIs("x doubled, y tripled", x, -1, 0, 0, 1);
+        x = doubled(2, 0);
+        x.factor(0, 0, 0, 0, 3);
+        needIs("x tripled, y doubled", x, -1, 0, 0, 1);
+        x = doubled(1, 0);
         x.constant(0, 0, 0, 3);
         // 2x + 3: from -2 on it rises by 1; -x >= 4 is beyond the rows.
         needIs("x doubled and 3", x, 1, 0, 0, -2);
@@ -244,6 +251,12 @@ public final class OrderTest {
     private static void rowsByB() {
         needIs("y doubled", doubled(2, 1), 0, -1, 0, 1);
         needIs("y and z doubled", doubled(3, 1), 0, -1, -1, 1);
+        FallingTerms x = doubled(3, 1);
+        x.factor(0, 0, 2, 2, 3);
+        needIs("y doubled, z tripled", x, 0, -1, 0, 1);
+        x = doubled(3, 1);
+        x.factor(0, 0, 1, 1, 3);
+        needIs("y tripled, z doubled", x, 0, -1, 0, 1);
     }
 
     private static void rowsByC() {
@@ -255,6 +268,10 @@ public final class OrderTest {
     }
 
     private static void rowsByD() {
+        // x + y becomes twice itself and 1: from -2 down it falls. For x alone -1 is enough, but it comes later.
+        FallingTerms sum = doubled(2, 0);
+        sum.constant(0, 0, 1, 1);
+        needIs("x + y doubled and 1", sum, -1, -1, 0, 2);
         for (int constant = -1; constant <= 5; constant++) {
             FallingTerms x = made(1, 1, row(-1, 0, 0, -50));
             x.factor(0, 0, 0, 0, 2);
@@ -290,20 +307,29 @@ public final class OrderTest {
         due.is("-s >= 3 is no row", x.need(0), 0);
     }
 
+    /** From -50 on x is doubled on all ways but one, on which y falls to 0 and x becomes a number. */
+    private static FallingTerms doubledButOn(int falls, int becomes) {
+        FallingTerms x = made(2, 3, row(1, 0, 0, -50));
+        for (int way = 0; way < 3; way++) {
+            x.factor(0, way, 0, 0, 2);
+        }
+        x.row(0, falls, 0, 1, 0, 0);
+        x.constant(0, falls, 1, -1);
+        x.factor(0, falls, 0, 0, 0);
+        x.constant(0, falls, 0, becomes);
+        return x;
+    }
+
     /** "A ROW LASTS, if on each WAY everywhere in THE SPACE where it holds it holds behind the CHANGE." */
     private static void lastsOnEachWay() {
         for (int becomes = -2; becomes <= 2; becomes++) {
-            // Way 0: x is doubled, from -50 on. Way 1: y falls to 0, x becomes a number.
-            FallingTerms x = made(2, 2, row(1, 0, 0, -50));
-            x.factor(0, 0, 0, 0, 2);
-            x.row(0, 1, 0, 1, 0, 0);
-            x.constant(0, 1, 1, -1);
-            x.factor(0, 1, 0, 0, 0);
-            x.constant(0, 1, 0, becomes);
-            if (becomes <= -1) {
-                needIs("x becomes " + becomes, x, -1, 0, 0, 1);
-            } else {
-                due.is("x becomes " + becomes + ": need", x.need(0), 0);
+            for (int falls = 0; falls < 3; falls++) {
+                FallingTerms x = doubledButOn(falls, becomes);
+                if (becomes <= -1) {
+                    needIs("x becomes " + becomes + " on way " + falls, x, -1, 0, 0, 1);
+                } else {
+                    due.is("x becomes " + becomes + " on way " + falls + ": need", x.need(0), 0);
+                }
             }
         }
         // Only in the space: from y = least on 2x + y + 3 keeps x >= 1, or x >= 2; for lesser y it does not.

@@ -197,6 +197,15 @@ public final class ProofTest {
         due.is("need of no ways", x.need(1), 2);
         due.is("behind a proved one", x.needed(0), -1000);
         x.need(0);
+        neededIs(x, "again", -1, 0, 0, 1);
+        x.way(1);
+        due.is("need of what stands still", x.need(1), 0);
+        for (int i = 0; i < 4; i++) {
+            due.is("behind one without a need", x.needed(i), -1000);
+        }
+        x.need(0);
+        x.factor(0, 0, 0, 0, 1);
+        neededIs(x, "behind a change of the loop", -1, 0, 0, 1);
         x.clear();
         neededIs(x, "behind clear(), which ends loops and the proof", -1, 0, 0, 1);
     }
