@@ -25,6 +25,7 @@ public final class OrderTest {
         statesByName();
         firstAndLastState();
         leastOfGoingsOn();
+        leadsIntoRings();
         waysOfTheWalk();
         due.finish();
     }
@@ -425,6 +426,31 @@ public final class OrderTest {
         }
         ringIs("three places", x, 2, 3, -2, 2, 2);
         ringIs("three places", x, 1, 3, 0, 1, 1);
+    }
+
+    /** Starts before the first ring lead into it, and are not there again themselves. */
+    private static void leadsIntoRings() {
+        for (int length = 1; length <= 201; length++) {
+            for (int size = 0; size <= 6; size++) {
+                // .. -2, -1, 0, 1, .. length - 1, and 0 again.
+                FallingTerms x = made(1, 2);
+                x.row(0, 0, -1, 0, 0, 2 - length);
+                x.constant(0, 0, 0, 1);
+                x.factor(0, 1, 0, 0, 0);
+                ringIs("leads from -" + size + " into a ring of " + length, x, size, length <= 200 ? length : 0, 0);
+            }
+        }
+        for (int size = 0; size <= 6; size++) {
+            // .. -3, -2, -1, 1, 0, 1, ..
+            FallingTerms x = made(1, 3);
+            x.row(0, 0, -1, 0, 0, 2);
+            x.constant(0, 0, 0, 1);
+            x.row(0, 1, -1, 0, 0, 0);
+            x.factor(0, 1, 0, 0, 0);
+            x.constant(0, 1, 0, 1);
+            x.factor(0, 2, 0, 0, 0);
+            ringIs("leads from -" + size + " into 1 and 0", x, size, 2, 0);
+        }
     }
 
     /** "THE WALK goes by the first WAY each time that is OPEN." */

@@ -24,6 +24,7 @@ public final class RandomTest {
         for (long seed = first; seed < first + 1500L * count && due.wrong() == 0; seed++) {
             due.is("judged loops, seed " + seed, new RandomTest(seed).judgeLoops() ? 1 : 0, 1);
             due.is("any calls, seed " + seed, new RandomTest(seed).anyCalls() ? 1 : 0, 1);
+            due.is("greatest rows, seed " + seed, new RandomTest(seed).greatestRows() ? 1 : 0, 1);
         }
         due.finish();
     }
@@ -72,6 +73,33 @@ public final class RandomTest {
         }
         judge(names, ways);
         return same;
+    }
+
+    /** A full guard and a full way of rows with numbers at their bounds: no space has more or greater corners. */
+    private boolean greatestRows() {
+        compare("loop(3)", x.loop(3), y.loop(3));
+        compare("way(0)", x.way(0), y.way(0));
+        for (int i = 0; i < 4; i++) {
+            guard(0, nearBound(9, 2), nearBound(9, 2), nearBound(9, 2), -Math.abs(nearBound(1000, 9)));
+        }
+        for (int i = 0; i < 2; i++) {
+            row(0, 0, nearBound(9, 2), nearBound(9, 2), nearBound(9, 2), nearBound(1000, 9));
+        }
+        for (int name = 0; name < 3; name++) {
+            constant(0, 0, name, nearBound(99, 9));
+            factor(0, 0, name, in(0, 2), nearBound(3, 1));
+        }
+        compare("empty(0, 0)", x.empty(0, 0), y.empty(0, 0));
+        for (int i = 0; i < 20; i++) {
+            holds(0, 0, weight(), weight(), weight(), random.nextBoolean() ? sum() : in(-1000, 1000));
+            term(0, 0, in(-2, 2), in(-2, 2), in(-2, 2));
+        }
+        return same;
+    }
+
+    private int nearBound(int bound, int within) {
+        int size = bound - in(0, within);
+        return random.nextBoolean() ? size : -size;
     }
 
     private void drawChange(int way, int names) {
